@@ -395,6 +395,9 @@ public final class PromisesTest {
         due("orbitsOf(2, 0, 1)", four.orbitsOf(2, 0, 1), 12);
         due("orbitsOf(0, 3, 0)", four.orbitsOf(0, 3, 0), 4);
         due("orbitsOf(2, 2, 1)", four.orbitsOf(2, 2, 1), OUTSIDE);
+        due("orbitsOf(-1, 2, 2)", four.orbitsOf(-1, 2, 2), OUTSIDE);
+        due("orbitsOf(2, -1, 2)", four.orbitsOf(2, -1, 2), OUTSIDE);
+        due("orbitsOf(2, 2, -1)", four.orbitsOf(2, 2, -1), OUTSIDE);
         SwapOrbits three = with(4, 3);
         due("orbitsOf(1, 1, 2) of three colours", three.orbitsOf(1, 1, 2), 12);
         due("orbitsOf(1, 1, 1) of three colours", three.orbitsOf(1, 1, 1), OUTSIDE);
@@ -429,6 +432,12 @@ public final class PromisesTest {
         promise = 18;
         due("necklaces that repeat nothing", with(6, 2, row(1, 2, 3, 4, 5, 0)).full(), 9);
         due("full() without moves", with(3, 3).full(), 27);
+        SwapOrbits fewer = with(6, 2);
+        due("full() of six points without moves", fewer.full(), 64);
+        fewer.move(row(1, 2, 3, 4, 5, 0));
+        due("full() behind a move", fewer.full(), 9);
+        fewer.set(1, 3);
+        due("full() of one point", fewer.full(), 3);
         due("full() of all of three, two colours", allOfThree(2).full(), 0);
         due("full() of all of three, four colours", allOfThree(4).full(), 4);
         due("full() of the move that changes nothing", with(3, 3, row(0, 1, 2)).full(), 27);
