@@ -508,7 +508,7 @@ public final class SwapOrbits {
             int next = 0;
             for (int place = 0; place < MOST_PERMUTATIONS; place++) {
                 numberByPlace[place] = NONE;
-                if (rowByPlace[place] != NONE) {
+                if (rowByPlace[place] != NONE && isCell(next)) {
                     numberByPlace[place] = next;
                     rows[next] = rowByPlace[place];
                     next++;
@@ -648,8 +648,8 @@ public final class SwapOrbits {
         void build(Plans plans, Moves moves) {
             count = 0;
             Arrays.fill(ranks, NONE);
-            for (int plan = 0; plan < plans.count; plan++) {
-                if (ranks[plan] == NONE) {
+            for (int plan = 0; plan < plans.count && isCell(plan); plan++) {
+                if (ranks[plan] == NONE && isCell(count)) {
                     heads[count] = plan;
                     sizes[count] = flood(plan, plans, moves);
                     count++;

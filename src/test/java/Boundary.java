@@ -23,6 +23,11 @@ final class Boundary {
         void on(SwapOrbits s);
     }
 
+    /** A call that is refused with such an argument, or with such arguments. */
+    interface Refused {
+        void with(SwapOrbits s, int... arguments);
+    }
+
     private static String test = "";
     private static int wrong = 0;
 
@@ -138,14 +143,24 @@ final class Boundary {
         s.edge(0, 2);
     }
 
-    /** Three points turned round as often as there is room for moves. */
+    /** Three points and all moves that there is room for; without the latest the group is less. */
     static void noRoom(SwapOrbits s) {
         s.set(3, 3);
         s.edge(1, 2);
         s.weight(2, 7);
-        for (int m = 0; m < 5; m++) {
-            s.move(m == 1 ? row(SWAP_OF_THREE) : row(RING_OF_THREE));
-        }
+        s.move(same(3));
+        s.move(row(SWAP_OF_THREE));
+        s.move(same(3));
+        s.move(same(3));
+        s.move(row(RING_OF_THREE));
+    }
+
+    /** Three points turned round, so that swaps are not in the group. */
+    static void ring(SwapOrbits s) {
+        s.set(3, 3);
+        s.edge(0, 1);
+        s.weight(1, 4);
+        s.move(row(RING_OF_THREE));
     }
 
     /** No moves, but edges and weights. */
@@ -155,8 +170,34 @@ final class Boundary {
         s.weight(0, 9);
     }
 
-    /** The refused calls change nothing, whether the object has been asked before or not. */
-    static void unchanged(Calls before, Calls refused) {
+    /** No refused call changes anything: each by itself (two might undo each other), then all of them. */
+    static void unchanged(Calls before, Calls... refused) {
+        for (Calls one : refused) {
+            unchangedByAll(before, new Calls[] {one});
+        }
+        unchangedByAll(before, refused);
+    }
+
+    static void unchanged(Calls before, int[] arguments, Refused call) {
+        Calls[] refused = new Calls[arguments.length];
+        for (int k = 0; k < refused.length; k++) {
+            int argument = arguments[k];
+            refused[k] = s -> call.with(s, argument);
+        }
+        unchanged(before, refused);
+    }
+
+    static void unchanged(Calls before, int[][] arguments, Refused call) {
+        Calls[] refused = new Calls[arguments.length];
+        for (int k = 0; k < refused.length; k++) {
+            int[] all = arguments[k];
+            refused[k] = s -> call.with(s, all);
+        }
+        unchanged(before, refused);
+    }
+
+    /** Whether the object has been asked before or not: what it keeps of its answers must not tell. */
+    private static void unchangedByAll(Calls before, Calls[] refused) {
         for (boolean asked : new boolean[] {false, true}) {
             SwapOrbits calm = new SwapOrbits();
             SwapOrbits tried = new SwapOrbits();
@@ -166,7 +207,9 @@ final class Boundary {
                 tried.told(5);
                 tried.full();
             }
-            refused.on(tried);
+            for (Calls one : refused) {
+                one.on(tried);
+            }
             compare(reading(tried), reading(calm));
         }
     }
@@ -225,9 +268,10 @@ final class Boundary {
         }
     }
 
+    // One round more than there may be moves: a back() that never ends must not keep the test from ending.
     private static void readMoves(SwapOrbits s, List<String> all) {
-        int left;
-        do {
+        int left = 0;
+        for (int round = 0; round < 7 && left >= 0; round++) {
             int size = s.told(4);
             for (int i = 0; i < size && i < 24; i++) {
                 all.add("element(" + i + ") = " + s.element(i));
@@ -236,7 +280,7 @@ final class Boundary {
             all.add("fits() = " + s.fits());
             left = s.back();
             all.add("back() = " + left);
-        } while (left >= 0);
+        }
     }
 
     static int power(int base, int times) {

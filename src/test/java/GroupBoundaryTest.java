@@ -60,11 +60,8 @@ public final class GroupBoundaryTest {
     }
 
     private static void dueNoneChangesNothing(Asked call) {
-        Boundary.unchanged(Boundary::busy, s -> {
-            for (int i : new int[] {-1, 6, 7, 5039, 5040, 5041, MIN, MAX}) {
-                due("of " + i, call.of(s, i), NONE);
-            }
-        });
+        int[] numbers = {-1, 6, 7, 5039, 5040, 5041, MIN, MAX};
+        Boundary.unchanged(Boundary::busy, numbers, (s, i) -> due("of " + i[0], call.of(s, i[0]), NONE));
         Boundary.unchanged(Boundary::noMoves, s -> due("of 1", call.of(s, 1), NONE));
     }
 
@@ -101,10 +98,9 @@ public final class GroupBoundaryTest {
     }
 
     static void promise08_number_NONE_changesNothing() {
-        Boundary.unchanged(Boundary::noMoves, s -> {
-            due("number", s.number(row(1, 2, 0)), NONE);
-            due("number", s.number(row(2, 1, 0)), NONE);
-        });
+        int[] rows = {row(1, 0, 2), row(0, 2, 1), row(2, 1, 0)};
+        Boundary.unchanged(Boundary::noMoves, rows, (s, row) -> due("number", s.number(row[0]), NONE));
+        Boundary.unchanged(Boundary::ring, rows, (s, row) -> due("number", s.number(row[0]), NONE));
     }
 
     private static final int[] NO_ROWS_OF_THREE = {0, 1, -1, MIN, MAX, row(0, 1, 1), row(2, 1, 2), row(0, 1, 3),
@@ -125,11 +121,8 @@ public final class GroupBoundaryTest {
     }
 
     static void promise08_number_OUTSIDE_changesNothing() {
-        Boundary.unchanged(Boundary::busy, s -> {
-            for (int row : NO_ROWS_OF_THREE) {
-                due("number(" + row + ")", s.number(row), OUTSIDE);
-            }
-        });
+        Boundary.unchanged(Boundary::busy, NO_ROWS_OF_THREE,
+            (s, row) -> due("number(" + row[0] + ")", s.number(row[0]), OUTSIDE));
     }
 
     // ---- promise 9
@@ -329,11 +322,8 @@ public final class GroupBoundaryTest {
     }
 
     static void promise12_keepsFit_NO_changesNothing() {
-        Boundary.unchanged(Boundary::notKept, s -> {
-            for (int i : new int[] {0, 5, 6, -1, MIN, MAX}) {
-                due("keepsFit(" + i + ")", s.keepsFit(i), NO);
-            }
-        });
+        int[] numbers = {0, 5, 6, -1, MIN, MAX};
+        Boundary.unchanged(Boundary::notKept, numbers, (s, i) -> due("keepsFit(" + i[0] + ")", s.keepsFit(i[0]), NO));
     }
 
     static void promise12_keepsFit_NONE_belowZero() {
@@ -404,11 +394,8 @@ public final class GroupBoundaryTest {
     }
 
     static void promise13_reach_OUTSIDE_changesNothing() {
-        Boundary.unchanged(Boundary::busy, s -> {
-            for (int x : new int[] {-1, 3, 7, 8, MIN, MAX}) {
-                due("reach(" + x + ")", s.reach(x), OUTSIDE);
-            }
-        });
+        int[] points = {-1, 3, 7, 8, MIN, MAX};
+        Boundary.unchanged(Boundary::busy, points, (s, x) -> due("reach(" + x[0] + ")", s.reach(x[0]), OUTSIDE));
     }
 
     // ---- promise 14

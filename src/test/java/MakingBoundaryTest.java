@@ -126,13 +126,9 @@ public final class MakingBoundaryTest {
     }
 
     static void promise02_set_OUTSIDE_changesNothing() {
-        Boundary.unchanged(Boundary::busy, s -> {
-            for (int k = 0; k < NO_POINTS.length; k++) {
-                due("set(" + NO_POINTS[k] + ", 2)", s.set(NO_POINTS[k], 2), OUTSIDE);
-                due("set(2, " + NO_COLOURS[k] + ")", s.set(2, NO_COLOURS[k]), OUTSIDE);
-                due("set, both wrong", s.set(NO_POINTS[k], NO_COLOURS[k]), OUTSIDE);
-            }
-        });
+        Boundary.unchanged(Boundary::busy, NO_POINTS, (s, n) -> due("set(" + n[0] + ", 2)", s.set(n[0], 2), OUTSIDE));
+        Boundary.unchanged(Boundary::busy, NO_COLOURS, (s, c) -> due("set(2, " + c[0] + ")", s.set(2, c[0]), OUTSIDE));
+        Boundary.unchanged(Boundary::busy, NO_POINTS, (s, n) -> due("set, both wrong", s.set(n[0], n[0]), OUTSIDE));
         Boundary.unchanged(Boundary::noRoom, s -> due("set(8, 4)", s.set(8, 4), OUTSIDE));
     }
 
@@ -256,21 +252,16 @@ public final class MakingBoundaryTest {
     }
 
     static void promise03_move_OUTSIDE_changesNothing() {
-        Boundary.unchanged(Boundary::busy, MakingBoundaryTest::moveNoRows);
-        Boundary.unchanged(Boundary::noMoves, MakingBoundaryTest::moveNoRows);
+        Boundary.unchanged(Boundary::busy, NO_ROWS_OF_THREE, MakingBoundaryTest::moveNoRow);
+        Boundary.unchanged(Boundary::noMoves, NO_ROWS_OF_THREE, MakingBoundaryTest::moveNoRow);
     }
 
-    private static void moveNoRows(SwapOrbits s) {
-        for (int row : NO_ROWS_OF_THREE) {
-            due("move(" + row + ")", s.move(row), OUTSIDE);
-        }
+    private static void moveNoRow(SwapOrbits s, int... row) {
+        due("move(" + row[0] + ")", s.move(row[0]), OUTSIDE);
     }
 
     static void promise03_move_OUTSIDE_aheadOfROOM() {
-        SwapOrbits s = new SwapOrbits();
-        Boundary.noRoom(s);
-        moveNoRows(s);
-        Boundary.unchanged(Boundary::noRoom, MakingBoundaryTest::moveNoRows);
+        Boundary.unchanged(Boundary::noRoom, NO_ROWS_OF_THREE, MakingBoundaryTest::moveNoRow);
     }
 
     static void promise03_move_ROOM_theSixth() {
@@ -283,11 +274,8 @@ public final class MakingBoundaryTest {
     }
 
     static void promise03_move_ROOM_changesNothing() {
-        Boundary.unchanged(Boundary::noRoom, s -> {
-            due("move", s.move(row(0, 2, 1)), ROOM);
-            due("move", s.move(row(1, 2, 0)), ROOM);
-            due("move", s.move(row(0, 1, 2)), ROOM);
-        });
+        int[] rows = {row(0, 2, 1), row(1, 2, 0), row(0, 1, 2)};
+        Boundary.unchanged(Boundary::noRoom, rows, (s, row) -> due("move(" + row[0] + ")", s.move(row[0]), ROOM));
     }
 
     static void promise03_move_ROOM_addsNothingToTheGroup() {
@@ -372,10 +360,8 @@ public final class MakingBoundaryTest {
     }
 
     static void promise04_back_NONE_changesNothing() {
-        Boundary.unchanged(Boundary::noMoves, s -> {
-            due("back()", s.back(), NONE);
-            due("back()", s.back(), NONE);
-        });
+        Boundary.Calls back = s -> due("back()", s.back(), NONE);
+        Boundary.unchanged(Boundary::noMoves, back, back);
     }
 
     // ---- promise 5
@@ -456,16 +442,14 @@ public final class MakingBoundaryTest {
     }
 
     static void promise05_edge_OUTSIDE_changesNothing() {
-        Boundary.unchanged(Boundary::busy, MakingBoundaryTest::noEdges);
-        Boundary.unchanged(Boundary::noMoves, MakingBoundaryTest::noEdges);
-    }
-
-    private static void noEdges(SwapOrbits s) {
         int[][] bad = {{0, 0}, {1, 1}, {2, 2}, {0, 3}, {3, 0}, {-1, 0}, {0, -1}, {8, 1}, {1, 8}, {32, 1}, {1, 32}, {1, 34},
             {MIN, 0}, {0, MIN}, {MAX, 2}, {2, MAX}, {3, 3}, {-1, -1}};
-        for (int[] pair : bad) {
-            due("edge(" + pair[0] + ", " + pair[1] + ")", s.edge(pair[0], pair[1]), OUTSIDE);
-        }
+        Boundary.unchanged(Boundary::busy, bad, MakingBoundaryTest::noEdge);
+        Boundary.unchanged(Boundary::noMoves, bad, MakingBoundaryTest::noEdge);
+    }
+
+    private static void noEdge(SwapOrbits s, int... pair) {
+        due("edge(" + pair[0] + ", " + pair[1] + ")", s.edge(pair[0], pair[1]), OUTSIDE);
     }
 
     // ---- promise 6
@@ -525,16 +509,10 @@ public final class MakingBoundaryTest {
     }
 
     static void promise06_weight_OUTSIDE_changesNothing() {
-        Boundary.unchanged(Boundary::busy, s -> {
-            for (int w : new int[] {-1, 10, MIN, MAX}) {
-                for (int colour = 0; colour < 3; colour++) {
-                    due("weight(" + colour + ", " + w + ")", s.weight(colour, w), OUTSIDE);
-                }
-            }
-            for (int colour : new int[] {-1, 3, 4, MIN, MAX}) {
-                due("weight(" + colour + ", 6)", s.weight(colour, 6), OUTSIDE);
-            }
-        });
+        int[][] bad = {{0, -1}, {1, -1}, {2, -1}, {0, 10}, {1, 10}, {2, 10}, {0, MIN}, {1, MAX}, {-1, 6}, {3, 6}, {4, 6},
+            {MIN, 6}, {MAX, 6}, {3, 10}, {-1, -1}};
+        Boundary.unchanged(Boundary::busy, bad,
+            (s, pair) -> due("weight(" + pair[0] + ", " + pair[1] + ")", s.weight(pair[0], pair[1]), OUTSIDE));
     }
 
     static void promise06_weight_OUTSIDE_ofAColourThatComesLaterStaysOne() {
@@ -606,10 +584,7 @@ public final class MakingBoundaryTest {
     }
 
     static void promise07_told_OUTSIDE_changesNothing() {
-        Boundary.unchanged(Boundary::busy, s -> {
-            for (int what : NOT_TOLD) {
-                due("told(" + what + ")", s.told(what), OUTSIDE);
-            }
-        });
+        Boundary.unchanged(Boundary::busy, NOT_TOLD,
+            (s, what) -> due("told(" + what[0] + ")", s.told(what[0]), OUTSIDE));
     }
 }

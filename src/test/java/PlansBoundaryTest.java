@@ -68,13 +68,9 @@ public final class PlansBoundaryTest {
     }
 
     private static void dueOutsideChangesNothing(Asked call) {
-        Boundary.Calls refused = s -> {
-            for (int plan : new int[] {-1, 27, 28, 16383, 16384, MIN, MAX}) {
-                due("of " + plan, call.of(s, plan), OUTSIDE);
-            }
-        };
-        Boundary.unchanged(Boundary::busy, refused);
-        Boundary.unchanged(Boundary::notKept, refused);
+        int[] plans = {-1, 27, 28, 16383, 16384, MIN, MAX};
+        Boundary.unchanged(Boundary::busy, plans, (s, plan) -> due("of " + plan[0], call.of(s, plan[0]), OUTSIDE));
+        Boundary.unchanged(Boundary::notKept, plans, (s, plan) -> due("of " + plan[0], call.of(s, plan[0]), OUTSIDE));
     }
 
     // ---- promise 15
@@ -224,13 +220,10 @@ public final class PlansBoundaryTest {
     }
 
     static void promise16_orbitsOf_OUTSIDE_changesNothing() {
-        Boundary.unchanged(Boundary::busy, s -> {
-            int[][] bad = {{-1, 2, 2}, {2, -1, 2}, {2, 2, -1}, {4, 0, 0}, {2, 2, 0}, {1, 1, 0}, {0, 0, 0}, {MAX, MAX, 5},
-                {MIN, MIN, 3}};
-            for (int[] t : bad) {
-                due("orbitsOf(" + t[0] + ", " + t[1] + ", " + t[2] + ")", s.orbitsOf(t[0], t[1], t[2]), OUTSIDE);
-            }
-        });
+        int[][] bad = {{-1, 2, 2}, {2, -1, 2}, {2, 2, -1}, {4, 0, 0}, {2, 2, 0}, {1, 1, 0}, {0, 0, 0}, {MAX, MAX, 5},
+            {MIN, MIN, 3}};
+        Boundary.unchanged(Boundary::busy, bad, (s, t) -> due("orbitsOf(" + t[0] + ", " + t[1] + ", " + t[2] + ")",
+            s.orbitsOf(t[0], t[1], t[2]), OUTSIDE));
     }
 
     // ---- promise 17
@@ -534,11 +527,8 @@ public final class PlansBoundaryTest {
     }
 
     static void promise23_nth_NONE_changesNothing() {
-        Boundary.unchanged(Boundary::busy, s -> {
-            for (int k : new int[] {-1, 10, 11, 26, 27, 16383, 16384, MIN, MAX}) {
-                due("nth(" + k + ")", s.nth(k), NONE);
-            }
-        });
+        int[] ranks = {-1, 10, 11, 26, 27, 16383, 16384, MIN, MAX};
+        Boundary.unchanged(Boundary::busy, ranks, (s, k) -> due("nth(" + k[0] + ")", s.nth(k[0]), NONE));
     }
 
     // ---- promise 24
@@ -594,10 +584,9 @@ public final class PlansBoundaryTest {
     }
 
     static void promise24_by_NONE_changesNothing() {
-        Boundary.unchanged(Boundary::busy, s -> {
-            due("by(0, 26)", s.by(0, 26), NONE);
-            due("by(1, 2)", s.by(1, 2), NONE);
-        });
+        int[][] notLike = {{0, 26}, {1, 2}, {26, 0}};
+        Boundary.unchanged(Boundary::busy, notLike, (s, two) -> due("by", s.by(two[0], two[1]), NONE));
+        Boundary.unchanged(Boundary::noMoves, s -> due("by(1, 3)", s.by(1, 3), NONE));
     }
 
     static void promise24_by_OUTSIDE_theFirst() {
@@ -745,10 +734,7 @@ public final class PlansBoundaryTest {
 
     static void promise26_made_OUTSIDE_changesNothing() {
         dueOutsideChangesNothing(PlansBoundaryTest::madeBySame);
-        Boundary.unchanged(Boundary::busy, s -> {
-            for (int row : NO_ROWS_OF_THREE) {
-                due("made(1, " + row + ")", s.made(1, row), OUTSIDE);
-            }
-        });
+        Boundary.unchanged(Boundary::busy, NO_ROWS_OF_THREE,
+            (s, row) -> due("made(1, " + row[0] + ")", s.made(1, row[0]), OUTSIDE));
     }
 }
