@@ -40,6 +40,7 @@ public final class FormTest {
         lookAtNames();
         String source = Files.readString(SOURCE);
         lookAtText(source);
+        lookAtHeadings(source);
         lookAtLengths(source.split("\n"));
         System.out.println(wrong == 0 ? "the form is as due" : wrong + " rules are not kept");
         if (wrong != 0) {
@@ -88,6 +89,16 @@ public final class FormTest {
                 holds("rule 4: " + name + " may be used", List.of(IMPORTS).contains(name));
             }
         }
+    }
+
+    /** The document's terms tell what the interface says ahead of which calls. */
+    private static void lookAtHeadings(String source) {
+        String shown = source.replaceAll("(?s)public (?:int|long) (\\w+)\\(.*?\\) \\{", "<$1>")
+            .replaceAll("(?m)^(?!.*<\\w+>|.*// ---- ).*\n", "").replaceAll("\\s+", " ");
+        holds("terms: the calls and what is said ahead of them, here " + shown, shown.contains(
+            "<set> <move> <back> <edge> <weight> <told> // ---- the group"
+            + " <number> <element> <cycles> <keeps> <keepsFit> <reach> <order> // ---- plans"
+            + " <orbits> <orbitsOf> <fits> <full> <sum> <head> <mates> <rank> <nth> <by> <fit> <made>"));
     }
 
     /** A method ends at the first closing brace that stands as far in as the line that opened it. */
